@@ -751,8 +751,10 @@ public final class QualifierGate {
             out.become(in);
             if (broken) {
                 out.height = CLASHED;
+            } else if (op < Op.GET) {
+                applyToValues(i, op, method.args[i]);
             } else {
-                apply(i, op, method.args[i]);
+                applyToStock(op, method.args[i]);
             }
             if (Op.jumps(op)) {
                 arrive(method.args[i], broken || op != Op.ISNULL ? out : jump);
@@ -781,7 +783,8 @@ public final class QualifierGate {
             }
         }
 
-        private void apply(int i, int op, int a) {
+        /** NUMBER to BUILT, which need nothing but the frame. */
+        private void applyToValues(int i, int op, int a) {
             switch (op) {
                 case Op.NUMBER:
                     out.push(Value.of(Value.INT, NONE, false, 0));
@@ -799,7 +802,6 @@ public final class QualifierGate {
                     out.push(out.under(0));
                     break;
                 case Op.POP:
-                case Op.ZERO:
                     out.pop();
                     break;
                 case Op.ADD:
@@ -809,15 +811,13 @@ public final class QualifierGate {
                     out.leaveSite(false, i);
                     out.push(Value.of(Value.RAW, a, false, 0));
                     break;
-                case Op.BUILT:
-                    out.leaveSite(Value.kind(out.under(0)) == Value.RAW, NONE);
-                    break;
                 default:
-                    applyToOthers(op, a);
+                    out.leaveSite(Value.kind(out.under(0)) == Value.RAW, NONE);
             }
         }
 
-        private void applyToOthers(int op, int a) {
+        /** GET to FAIL, which look at fields, methods and classes, or lead elsewhere. */
+        private void applyToStock(int op, int a) {
             switch (op) {
                 case Op.GET:
                     get(a);
@@ -831,6 +831,9 @@ public final class QualifierGate {
                 case Op.CAST:
                     int v = out.pop();
                     out.push(Value.of(Value.REF, a, Value.may(v), Value.marks(v)));
+                    break;
+                case Op.ZERO:
+                    out.pop();
                     break;
                 case Op.ISNULL:
                     isNull();
