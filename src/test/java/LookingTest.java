@@ -32,6 +32,7 @@ public final class LookingTest {
         framesOfCalls();
         framesOfNullTests();
         framesJoined();
+        framesThatNeedManyRounds();
         framesOfSites();
         framesOfGuards();
         framesAskedWrongly();
@@ -261,6 +262,9 @@ public final class LookingTest {
         b.gate.result(0, 0, false, 15);
         b.error(0, "null; give", NULL, 1);
         b.fine(0, "load 2; give");
+        b.gate.result(0, -2, false, 0);
+        b.gate.param(1, -1, true, 0);
+        b.fine(0, "load 2; load 0; call 1; give");
         Bench c = bench("NULL of INTS");
         c.plain(0);
         c.gate.param(0, -1, true, 0);
@@ -292,6 +296,8 @@ public final class LookingTest {
         b.error(0, "load 1; call 3; give", MARKS, 1);
         b.error(0, "load 1; fail", MARKS, 1);
         b.fine(0, "load 1; get 0; pop; give");
+        b.fine(0, "load 1; number 1; put 0; give");
+        b.fine(0, "load 1; isnull 2; give");
         b.error(0, "load 1; cast 0; fail", MARKS, 2);
         b.error(0, "number 1; load 0; add; call 1; give", MARKS, 3);
         b.gate.result(0, -1, false, 4);
@@ -301,6 +307,17 @@ public final class LookingTest {
         b.error(0, "load 1; give", MARKS, 1);
         b.gate.result(0, 0, false, 11);
         b.fine(0, "load 1; give");
+        for (int mark = 0; mark < 4; mark++) {
+            Bench c = bench("mark " + mark);
+            c.plain(0);
+            c.gate.param(0, 0, false, 1 << mark);
+            c.gate.method(0, 1, false);
+            c.plain(2);
+            c.gate.param(2, 0, false, 15 - (1 << mark));
+            c.error(0, "load 0; fail", MARKS, 1);
+            c.error(0, "load 0; call 1; give", MARKS, 1);
+            c.error(0, "load 0; call 2; give", MARKS, 1);
+        }
     }
 
     private void orderOfErrors() {
@@ -372,6 +389,9 @@ public final class LookingTest {
         b.gate.builtIn(2, 2);
         b.gate.result(2, -1, false, 0);
         outside(b, 2, OUTSIDE, "SAME without PARAMETER");
+        b.gate.param(2, 0, true, 0);
+        b.gate.result(2, 0, false, 0);
+        outside(b, 2, OUTSIDE, "SAME of what may be null to what may not, of one CLASS");
     }
 
     private static void outside(Bench b, int m, int error, String what) {
@@ -439,6 +459,10 @@ public final class LookingTest {
         pairOfMethods("null in, the lower only", refs, new int[] {0, 1, 1, 0, 1, 0, 0}, 0);
         pairOfMethods("null out, the lower only", refs, new int[] {0, 1, 0, 0, 1, 1, 0}, VARIANCE);
         pairOfMethods("null out, the upper only", new int[] {0, 1, 0, 0, 1, 1, 0}, refs, 0);
+        int[] roots = {0, 0, 0, 0, 0, 0, 0};
+        pairOfMethods("CLASS 0", roots, roots, 0);
+        pairOfMethods("null of CLASS 0 in", new int[] {0, 0, 1, 0, 0, 0, 0}, roots, VARIANCE);
+        pairOfMethods("null of CLASS 0 out", roots, new int[] {0, 0, 0, 0, 0, 1, 0}, VARIANCE);
         nearestCounts();
     }
 
@@ -662,6 +686,28 @@ public final class LookingTest {
         b.value(0, 1, Bench.REF, 1, true, 6, -1);
         b.value(0, 4, Bench.ANY, -1, false, 0, -1);
         b.value(4, 4, Bench.INT, -1, false, 0, -1);
+    }
+
+    private void framesThatNeedManyRounds() {
+        Bench b = bench("frames that need many rounds").classes(0, 1, 2, 3, 3);
+        b.plain(0);
+        b.gate.param(0, -1, false, 0);
+        b.gate.param(0, 4, false, 1);
+        b.gate.param(0, 5, true, 2);
+        b.fine(0, "go 9; give; go 1; go 2; go 3; go 4; go 5; go 6; go 7; go 8");
+        b.whole(1, 0, -1, 0);
+        // Each round of the loop carries what the locals hold one further.
+        b.fine(0, "load 4; store 5; load 3; store 4; load 1; store 3; load 2; store 1; load 0; zero 0; give");
+        b.value(0, 1, Bench.REF, 3, true, 3, -1);
+        b.value(0, 3, Bench.ANY, -1, true, 3, -1);
+        b.value(0, 4, Bench.ANY, -1, true, 3, -1);
+        b.value(0, 5, Bench.ANY, -1, true, 3, -1);
+        b.value(10, 3, Bench.REF, 3, true, 3, -1);
+        // A loop that is left, with a site and a field that is set, late.
+        b.gate.field(0, -1, false, 0);
+        b.fine(0, "new 0; go 7; give; load 0; zero 5; go 2; go 2; go 11; dup; number 1; put 0; load 0; zero 8; go 3");
+        b.whole(8, 1, 0, 0);
+        b.whole(2, 1, 0, 0);
     }
 
     private void framesOfSites() {

@@ -14,7 +14,10 @@ public final class RunningTest {
         refusedRuns();
         arithmetic();
         objects();
+        manyFields();
+        fullStacks();
         dispatch();
+        farDispatch();
         casts();
         thrown();
         heap();
@@ -66,6 +69,19 @@ public final class RunningTest {
         }
         b.due("a ninth", b.gate.input(1), FULL);
         b.run(0, 0, 0, DONE, 30);
+        Bench c = adder("promise 16, behind the last one", "go 0");
+        c.plain(1);
+        c.gate.result(1, -1, false, 0);
+        c.gate.builtIn(1, 0);
+        c.code(0, "load 0; zero 9; call 1; store 1; load 0; number -1; add; store 0; go 0; load 1; give");
+        for (int v = 1; v <= 8; v++) {
+            c.gate.input(-v);
+        }
+        c.load(0);
+        c.run(0, 8, 0, DONE, -8);
+        c.run(0, 9, 1, DONE, 0);
+        c.run(0, 30, 1, DONE, 0);
+        c.due("told(3)", c.gate.told(3), 30);
     }
 
     private void refusedRuns() {
@@ -91,15 +107,16 @@ public final class RunningTest {
         b.gate.param(4, 0, true, 0);
         b.gate.method(1, 5, true);
         b.more(5, "give");
+        b.plain(5);
+        b.more(6, "give");
+        b.gate.param(6, 0, true, 0);
         b.load(0);
         b.run(0, 0, 0, DONE, 5);
-        for (int m : new int[] {-1, 1, 2, 3, 4, 5, 6, 10, Integer.MIN_VALUE, Integer.MAX_VALUE}) {
+        for (int m : new int[] {-1, 1, 2, 3, 4, 5, 6, 7, 10, Integer.MIN_VALUE, Integer.MAX_VALUE}) {
             b.due("run(" + m + ")", b.gate.run(m, 1, 2), BAD);
             b.due("the latest run stays", b.gate.value(), 5);
             b.due("the latest run stays", b.gate.told(0), 2);
         }
-        b.load(1);
-        b.run(5, 0, 0, DONE, 0);
     }
 
     private void arithmetic() {
@@ -143,6 +160,80 @@ public final class RunningTest {
         told(b, 15, 1, 0, 0, 1);
         b.run(1, 0, 0, DONE, 0);
         told(b, 7, 1, 0, 0, 1);
+    }
+
+    /** Three objects with twelve fields each keep apart what they hold. */
+    private void manyFields() {
+        Bench b = bench("twelve FIELDS");
+        for (int f = 0; f < 12; f++) {
+            b.gate.field(0, f == 11 ? 0 : -1, true, 0);
+        }
+        b.plain(0);
+        b.gate.param(0, -1, false, 0);
+        b.gate.param(0, -1, false, 0);
+        b.gate.result(0, 0, false, 0);
+        b.more(0, "new 0; built; dup; load 0; put 0; dup; load 1; put 10; give");
+        b.plain(1);
+        b.gate.param(1, -1, false, 0);
+        b.gate.param(1, -1, false, 0);
+        b.gate.result(1, 0, false, 0);
+        b.more(1, "load 0; load 1; call 0; dup; load 1; load 0; call 0; put 11; give");
+        for (int m = 2; m < 6; m++) {
+            b.plain(m);
+            b.gate.param(m, -1, false, 0);
+            b.gate.param(m, -1, false, 0);
+            b.gate.result(m, -1, false, 0);
+        }
+        b.more(2, "load 0; load 1; call 1; get 0; give");
+        b.more(3, "load 0; load 1; call 1; get 10; give");
+        b.more(4, "load 0; load 1; call 1; get 11; store 2; load 2; isnull 10; load 2; get 0; give; number -1; give");
+        b.more(5, "load 0; load 1; call 1; get 11; store 2; load 2; isnull 10; load 2; get 10; give; number -1; give");
+        b.load(0);
+        b.run(2, 3, 4, DONE, 3);
+        b.run(3, 3, 4, DONE, 4);
+        b.run(4, 3, 4, DONE, 4);
+        b.run(5, 3, 4, DONE, 3);
+        b.due("told(1)", b.gate.told(1), 2);
+        Bench c = adder("objects made anew", "go 0");
+        c.gate.field(0, -1, false, 0);
+        c.gate.field(0, -1, false, 0);
+        c.code(0, "new 0; dup; get 1; store 2; load 0; put 1; load 2; give");
+        c.load(0);
+        c.run(0, 6, 0, DONE, 0);
+        c.run(0, 7, 0, DONE, 0);
+    }
+
+    private void fullStacks() {
+        Bench b = adder("four on the stack", "load 0; load 1; number 100; number 1000; add; add; add; give");
+        b.plain(1);
+        b.gate.result(1, -1, false, 0);
+        b.more(1, "new 0; built; fail; number 1; number 2; number 4; add; add; store 0; pop; load 0; give");
+        b.gate.guard(1, 2, 2, 3);
+        b.plain(2);
+        b.gate.param(2, -1, false, 0);
+        b.gate.param(2, -1, false, 0);
+        b.gate.param(2, -1, false, 0);
+        b.gate.result(2, -1, false, 0);
+        b.more(2, "load 0; load 0; add; load 1; add; load 2; load 2; add; number 10; add; add; give");
+        b.plain(3);
+        b.gate.result(3, -1, false, 0);
+        b.more(3, "number 1; number 2; number 30; number 400; call 2; add; give");
+        b.load(0);
+        b.run(0, 1, 10, DONE, 1111);
+        b.run(1, 0, 0, DONE, 7);
+        b.run(3, 0, 0, DONE, 2 * 2 + 30 + 2 * 400 + 10 + 1);
+    }
+
+    private void farDispatch() {
+        Bench b = bench("CALL done five above").classes(0, 1, 2, 3, 4);
+        b.gate.method(0, 0, false);
+        b.gate.result(0, 0, false, 0);
+        b.more(0, "load 0; give");
+        b.plain(1);
+        b.gate.result(1, 0, false, 0);
+        b.more(1, "new 5; built; call 0; give");
+        b.load(0, 1, 2, 3, 4, 5);
+        b.run(1, 0, 0, DONE, 5);
     }
 
     private void dispatch() {
