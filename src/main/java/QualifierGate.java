@@ -543,6 +543,9 @@ public final class QualifierGate {
         }
 
         static int join(int v, int w, Stock stock) {
+            if (v == w) {
+                return v;
+            }
             int k = kind(v);
             int l = kind(w);
             int joined = of(ANY, NONE, may(v) || may(w), marks(v) | marks(w));
@@ -582,6 +585,8 @@ public final class QualifierGate {
         int height = UNREACHED;
         int site = NONE;
         int set;
+        /** Whether it was raised since the instruction behind it was followed last. */
+        boolean fresh;
 
         void become(Frame other) {
             System.arraycopy(other.slots, 0, slots, 0, slots.length);
@@ -626,18 +631,20 @@ public final class QualifierGate {
             set = 0;
         }
 
-        /** Takes in what comes along a way: whether that changed anything. */
-        boolean join(Frame other, Stock stock) {
+        /** Takes in what comes along a way. */
+        void join(Frame other, Stock stock) {
             if (height == UNREACHED) {
                 become(other);
-                return true;
+                fresh = true;
+                return;
             }
             if (height == CLASHED) {
-                return false;
+                return;
             }
             if (other.height != height) {
                 height = CLASHED;
-                return true;
+                fresh = true;
+                return;
             }
             int oldSite = site;
             int oldSet = set;
@@ -647,21 +654,18 @@ public final class QualifierGate {
                 // Nothing here is RAW then, so that what comes as RAW joins to ANY.
                 leaveSite(false, NONE);
             }
-            boolean changed = site != oldSite || set != oldSet;
+            fresh = fresh || site != oldSite || set != oldSet;
             for (int s = 0; s < LOCALS + height; s++) {
                 int joined = Value.join(slots[s], other.slots[s], stock);
-                if (joined != slots[s]) {
-                    slots[s] = joined;
-                    changed = true;
-                }
+                fresh = fresh || joined != slots[s];
+                slots[s] = joined;
             }
-            return changed;
         }
     }
 
     /** Looks methods through: finds the frames of one, then its first error. */
     private static final class Look {
-        // Each round but the last raises a frame, and twenty frames of ten values can't be raised this often.
+        // Each round but the last begins with a frame that was raised, and twenty frames of ten values can't be raised this often.
         private static final int MOST_ROUNDS = 10_000;
         private final Stock stock;
         private final Rules rules;
@@ -669,7 +673,6 @@ public final class QualifierGate {
         private final Frame out = new Frame();
         private final Frame jump = new Frame();
         private Method method;
-        private boolean changed;
         int errorAt;
 
         Look(Stock stock) {
@@ -688,6 +691,7 @@ public final class QualifierGate {
             method = looked;
             for (int i = 0; i < frames.length; i++) {
                 frames[i].height = UNREACHED;
+                frames[i].fresh = false;
             }
             if (looked.isBuiltIn()) {
                 return rules.isFitBuiltIn(looked) ? 0 : OUTSIDE;
@@ -720,6 +724,7 @@ public final class QualifierGate {
             first.height = 0;
             first.site = NONE;
             first.set = 0;
+            first.fresh = true;
             for (int local = 0; local < LOCALS; local++) {
                 first.slots[local] = Value.of(Value.ANY, NONE, false, 0);
             }
@@ -733,12 +738,14 @@ public final class QualifierGate {
         }
 
         private void settle() {
-            changed = true;
-            for (int round = 0; changed && round < MOST_ROUNDS; round++) {
-                changed = false;
+            boolean raised = true;
+            for (int round = 0; raised && round < MOST_ROUNDS; round++) {
+                raised = false;
                 for (int i = 0; i < method.count; i++) {
-                    if (frames[i].height != UNREACHED) {
+                    if (frames[i].fresh) {
+                        frames[i].fresh = false;
                         leave(i);
+                        raised = true;
                     }
                 }
             }
@@ -778,8 +785,8 @@ public final class QualifierGate {
         }
 
         private void arrive(int i, Frame from) {
-            if (i < method.count && frames[i].join(from, stock)) {
-                changed = true;
+            if (i < method.count) {
+                frames[i].join(from, stock);
             }
         }
 
