@@ -191,12 +191,10 @@ public final class AgainstModelTest {
         if (upTo(4) == 0) {
             for (int kind = 0; kind < 3; kind++) {
                 pair.builtIn(m, kind);
-                if (pair.model.check(m) == 0) {
-                    pair.gate.check(m);
+                if (errorNow(pair.model, m) == 0) {
                     return;
                 }
             }
-            pair.gate.check(m);
             pair.builtIn(m, upTo(10) == 0 ? upTo(3) : -1);
         }
     }
@@ -223,7 +221,7 @@ public final class AgainstModelTest {
                     method.code.remove(method.code.size() - 1);
                 }
             } else {
-                whole = pair.model.check(m) == 0 && upTo(3) == 0;
+                whole = errorNow(pair.model, m) == 0 && upTo(3) == 0;
             }
         }
         List<GateModel.Ins> code = new ArrayList<>(method.code);
@@ -231,39 +229,47 @@ public final class AgainstModelTest {
         for (GateModel.Ins in : code) {
             pair.add(m, in.op(), in.a());
         }
-        if (pair.model.check(m) != 0 && upTo(10) != 0) {
+        if (errorNow(pair.model, m) != 0 && upTo(10) != 0) {
             plainest(pair, m);
         }
-        pair.gate.check(m);
     }
 
-    /** Puts other instructions into code that had no error, looks, and puts the old ones back. */
+    /** What check(m) would answer, asked of the model alone, which stays as it is. */
+    private static int errorNow(GateModel model, int m) {
+        int place = model.place;
+        List<GateModel.Fr> frames = model.frames;
+        int error = model.check(m);
+        model.place = place;
+        model.frames = frames;
+        return error;
+    }
+
+    /** Puts another instruction into code that had no error, and looks; then the model has the old one again. */
     private void spoil(Pair pair, int m) {
-        List<GateModel.Ins> code = new ArrayList<>(pair.model.methods.get(m).code);
-        List<GateModel.Guard> guards = new ArrayList<>(pair.model.methods.get(m).guards);
+        GateModel.Meth method = pair.model.methods.get(m);
+        List<GateModel.Ins> code = new ArrayList<>(method.code);
+        List<GateModel.Guard> guards = new ArrayList<>(method.guards);
+        int place = pair.model.place;
+        List<GateModel.Fr> frames = pair.model.frames;
         for (int time = 0; time < 8 && !code.isEmpty(); time++) {
             int at = upTo(code.size());
             int op = OPS_WANTED[upTo(OPS_WANTED.length)];
             int a = goodArgument(pair.model, op, at);
-            pair.wipe(m);
+            Pair other = pair.fork();
+            other.wipe(m);
             for (int i = 0; i < code.size(); i++) {
-                boolean other = i == at && a >= 0;
-                pair.add(m, other ? op : code.get(i).op(), other ? a : code.get(i).a());
+                boolean changed = i == at && a >= 0;
+                other.add(m, changed ? op : code.get(i).op(), changed ? a : code.get(i).a());
             }
-            addGuards(pair, m, guards);
-            count(pair.check(m));
+            for (GateModel.Guard guard : guards) {
+                other.guard(m, guard.from(), guard.to(), guard.at());
+            }
+            count(other.check(m));
         }
-        pair.wipe(m);
-        for (GateModel.Ins in : code) {
-            pair.add(m, in.op(), in.a());
-        }
-        addGuards(pair, m, guards);
-    }
-
-    private static void addGuards(Pair pair, int m, List<GateModel.Guard> guards) {
-        for (GateModel.Guard guard : guards) {
-            pair.guard(m, guard.from(), guard.to(), guard.at());
-        }
+        method.code = code;
+        method.guards = guards;
+        pair.model.place = place;
+        pair.model.frames = frames;
     }
 
     private int goodArgument(GateModel model, int op, int size) {

@@ -8,7 +8,7 @@ final class Bench {
     private static final List<String> NAMES = List.of("number", "null", "load", "store", "dup", "pop", "add", "new", "built",
         "get", "put", "call", "cast", "go", "zero", "isnull", "give", "fail");
 
-    final QualifierGate gate = new QualifierGate();
+    final Gate gate = new Gate();
     private final Report report;
     private final String title;
 

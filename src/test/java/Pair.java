@@ -1,30 +1,85 @@
 import java.util.ArrayList;
+import java.util.Arrays;
 import java.util.List;
 
-/** The gate and the model side by side: each call goes to both, and their answers must be the same. */
+/**
+ * The gate and the model side by side: each call goes to both, and their answers must be the same.
+ * What only asks, and asks much, goes to further gates to which all calls so far were made again, so that
+ * no gate is asked more than 512 calls.
+ */
 final class Pair {
-    final QualifierGate gate = new QualifierGate();
-    final GateModel model = new GateModel();
-    private final Report report;
-    private final String title;
-    private final List<String> calls = new ArrayList<>();
-
-    Pair(Report report, String title) {
-        this.report = report;
-        this.title = title;
+    private interface Call {
+        int on(Gate gate);
     }
 
-    private int same(String call, int got, int want) {
-        calls.add(call);
-        if (got != want && report.wrong() < 5) {
-            System.out.println(title + " " + calls);
+    final GateModel model;
+    private final Gate gate;
+    private Gate copy;
+    private final Report report;
+    private final String title;
+    private final List<Call> calls = new ArrayList<>();
+    private final List<String> texts = new ArrayList<>();
+
+    Pair(Report report, String title) {
+        this(report, title, new GateModel(), new Gate());
+    }
+
+    private Pair(Report report, String title, GateModel model, Gate gate) {
+        this.report = report;
+        this.title = title;
+        this.model = model;
+        this.gate = gate;
+    }
+
+    /** A further gate that stands where this one does, with the same model. */
+    Pair fork() {
+        Pair other = new Pair(report, title, model, again());
+        other.calls.addAll(calls);
+        other.texts.addAll(texts);
+        return other;
+    }
+
+    int callsLeft() {
+        return gate.callsLeft();
+    }
+
+    private Gate again() {
+        Gate made = new Gate();
+        for (Call call : calls) {
+            call.on(made);
         }
-        report.due(title + " " + call, got, want);
+        return made;
+    }
+
+    private int same(String text, Call call, int want) {
+        calls.add(call);
+        texts.add(text);
+        compare(text, call.on(gate), want);
         return want;
     }
 
+    private void compare(String text, int got, int want) {
+        if (got != want && report.wrong() < 5) {
+            System.out.println(title + " " + texts);
+        }
+        report.due(title + " " + text, got, want);
+    }
+
+    /** For what changes nothing: it is asked of a copy, and the text is made only where it is needed. */
+    private void probe(String name, Call call, int want, int... args) {
+        if (copy == null || copy.callsLeft() == 0) {
+            copy = again();
+        }
+        int got = call.on(copy);
+        if (got == want) {
+            report.fine();
+        } else {
+            compare(name + Arrays.toString(args), got, want);
+        }
+    }
+
     private static String text(String name, Object... args) {
-        return name + java.util.Arrays.toString(args);
+        return name + Arrays.toString(args);
     }
 
     private static int bit(boolean b) {
@@ -32,95 +87,96 @@ final class Pair {
     }
 
     int cls(int above) {
-        return same(text("cls", above), gate.cls(above), model.cls(above));
+        return same(text("cls", above), g -> g.cls(above), model.cls(above));
     }
 
     int field(int c, int sort, boolean may, int marks) {
-        return same(text("field", c, sort, may, marks), gate.field(c, sort, may, marks), model.field(c, sort, may, marks));
+        return same(text("field", c, sort, may, marks), g -> g.field(c, sort, may, marks), model.field(c, sort, may, marks));
     }
 
     int method(int c, int name, boolean isStatic) {
-        return same(text("method", c, name, isStatic), gate.method(c, name, isStatic), model.method(c, name, isStatic));
+        return same(text("method", c, name, isStatic), g -> g.method(c, name, isStatic), model.method(c, name, isStatic));
     }
 
     int param(int m, int sort, boolean may, int marks) {
-        return same(text("param", m, sort, may, marks), gate.param(m, sort, may, marks), model.param(m, sort, may, marks));
+        return same(text("param", m, sort, may, marks), g -> g.param(m, sort, may, marks), model.param(m, sort, may, marks));
     }
 
     int result(int m, int sort, boolean may, int marks) {
-        boolean got = gate.result(m, sort, may, marks);
-        return same(text("result", m, sort, may, marks), bit(got), bit(model.result(m, sort, may, marks)));
+        int want = bit(model.result(m, sort, may, marks));
+        return same(text("result", m, sort, may, marks), g -> bit(g.result(m, sort, may, marks)), want);
     }
 
     int builtIn(int m, int kind) {
-        return same(text("builtIn", m, kind), bit(gate.builtIn(m, kind)), bit(model.builtIn(m, kind)));
+        return same(text("builtIn", m, kind), g -> bit(g.builtIn(m, kind)), bit(model.builtIn(m, kind)));
     }
 
     int add(int m, int op, int a) {
-        return same(text("add", m, op, a), gate.add(m, op, a), model.add(m, op, a));
+        return same(text("add", m, op, a), g -> g.add(m, op, a), model.add(m, op, a));
     }
 
     int guard(int m, int from, int to, int at) {
-        return same(text("guard", m, from, to, at), gate.guard(m, from, to, at), model.guard(m, from, to, at));
+        return same(text("guard", m, from, to, at), g -> g.guard(m, from, to, at), model.guard(m, from, to, at));
     }
 
     int wipe(int m) {
-        return same(text("wipe", m), gate.wipe(m), model.wipe(m));
+        return same(text("wipe", m), g -> g.wipe(m), model.wipe(m));
     }
 
     int check(int m) {
-        int error = same(text("check", m), gate.check(m), model.check(m));
+        int error = same(text("check", m), g -> g.check(m), model.check(m));
         sameView();
         return error;
     }
 
     int load(int c) {
-        int error = same(text("load", c), gate.load(c), model.load(c));
-        for (int d = -1; d < 7; d++) {
-            same(text("isLoaded", d), bit(gate.isLoaded(d)), bit(model.isLoaded(d)));
-        }
+        int error = same(text("load", c), g -> g.load(c), model.load(c));
         sameView();
         return error;
     }
 
     int input(int v) {
-        return same(text("input", v), gate.input(v), model.input(v));
+        return same(text("input", v), g -> g.input(v), model.input(v));
     }
 
     int run(int m, int x, int y) {
-        int how = same(text("run", m, x, y), gate.run(m, x, y), model.run(m, x, y));
+        int how = same(text("run", m, x, y), g -> g.run(m, x, y), model.run(m, x, y));
         sameOutcome();
         return how;
     }
 
-    /** All that place() and frame() tell. */
+    /** All that place(), isLoaded() and frame() tell. */
     void sameView() {
-        int mark = calls.size();
-        same("place", gate.place(), model.place());
+        copy = null;
+        probe("place", Gate::place, model.place());
+        for (int c = -1; c < 7; c++) {
+            int d = c;
+            probe("isLoaded", g -> bit(g.isLoaded(d)), bit(model.isLoaded(d)), d);
+        }
         for (int i = -1; i <= 20; i++) {
-            for (int slot = -2; slot <= 10; slot++) {
-                for (int what = -1; what <= 5; what++) {
-                    int got = gate.frame(i, slot, what);
-                    int want = model.frame(i, slot, what);
-                    // The texts are made only where they are needed: there are two thousand calls here.
-                    if (got != want) {
-                        same(text("frame", i, slot, what), got, want);
-                    }
+            boolean reached = model.frame(i, -1, 0) >= 0;
+            for (int slot = reached ? -2 : -1; slot <= (reached ? 10 : 0); slot++) {
+                for (int what = reached ? -1 : 0; what <= (reached ? 5 : 1); what++) {
+                    sameFrame(i, slot, what);
                 }
             }
         }
-        calls.subList(mark, calls.size()).clear();
+    }
+
+    private void sameFrame(int i, int slot, int what) {
+        probe("frame", g -> g.frame(i, slot, what), model.frame(i, slot, what), i, slot, what);
     }
 
     void sameOutcome() {
-        int mark = calls.size();
-        same("value", gate.value(), model.value());
-        for (int k = -1; k <= 17; k++) {
-            same(text("output", k), gate.output(k), model.output(k));
+        copy = null;
+        probe("value", Gate::value, model.value());
+        for (int at = -1; at <= 17; at++) {
+            int k = at;
+            probe("output", g -> g.output(k), model.output(k), k);
         }
-        for (int what = -1; what <= 5; what++) {
-            same(text("told", what), gate.told(what), model.told(what));
+        for (int asked = -1; asked <= 5; asked++) {
+            int what = asked;
+            probe("told", g -> g.told(what), model.told(what), what);
         }
-        calls.subList(mark, calls.size()).clear();
     }
 }

@@ -19,6 +19,11 @@ final class Report {
         }
     }
 
+    /** Counts an answer that was seen to be as due. */
+    void fine() {
+        asked++;
+    }
+
     int wrong() {
         return wrong;
     }
