@@ -644,6 +644,7 @@ public final class EdgesOfErrorsTest {
         d.load(0, 3);
         d.due("the SUPER of its SUPER is not enough", d.gate.load(2), NOT_READY);
         d.load(1, 2);
+        // BAD and NOT_READY can't apply at once: what is LOADED has a SUPER that is, and what is no CLASS has none.
         Bench e = bench("12, order: NOT_READY before an ERROR").classes(0);
         e.gate.method(1, 0, true);
         e.due("load(1)", e.gate.load(1), NOT_READY);

@@ -92,6 +92,9 @@ public final class EdgesOfFramesTest {
             b.value(0, local, Bench.ANY, -1, false, 0, -1);
         }
         b.due("nothing else is REACHED", b.gate.frame(1, -1, 0), -1);
+        b.plain(2);
+        b.fine(2, "give");
+        b.value(0, 0, Bench.ANY, -1, false, 0, -1);
         // A frame at 0 with a site and a field that is set is what the next look must forget.
         b.fine(0, "new 0; go 2; dup; number 1; put 0; go 2");
         b.whole(2, 1, 0, 0);
@@ -230,6 +233,7 @@ public final class EdgesOfFramesTest {
         d.due("behind it", d.gate.frame(2, -1, 0), -2);
         sameSite();
         otherSite();
+        late();
     }
 
     private void sameSite() {
@@ -247,13 +251,42 @@ public final class EdgesOfFramesTest {
         b.whole(10, 1, 0, 1);
         b.fine(0, "new 0; number 0; zero 6; dup; number 1; put 0; give");
         b.whole(6, 1, 0, 0);
-        Bench c = bench("SET are the FIELDS that are so in both, though one comes late");
-        c.gate.field(0, -1, false, 0);
+    }
+
+    /**
+     * What comes along the shorter way is carried on from 2 to 3 before what comes along the longer one is there;
+     * when it is, 3 must get to know of it.
+     */
+    private void late() {
+        Bench b = bench("SET are the FIELDS that are so in both, though one comes late");
+        b.gate.field(0, -1, false, 0);
+        b.plain(0);
+        b.gate.param(0, -1, false, 0);
+        b.fine(0, "new 0; go 5; go 3; give; go 12; load 0; zero 4; dup; number 1; put 0; go 2; give; go 2");
+        b.whole(10, 1, 0, 1);
+        b.whole(2, 1, 0, 0);
+        b.whole(3, 1, 0, 0);
+        Bench c = bench("no SITE, though the other one comes late, and nothing is RAW");
         c.plain(0);
         c.gate.param(0, -1, false, 0);
-        c.fine(0, "new 0; go 4; dup; go 10; load 0; zero 9; dup; number 1; put 0; go 2; pop; give");
-        c.whole(2, 1, 0, 0);
-        c.whole(10, 2, 0, 0);
+        c.fine(0, "go 5; give; go 3; give; go 10; load 0; zero 4; new 0; pop; go 2; go 2");
+        c.whole(9, 0, 7, 0);
+        c.whole(2, 0, -1, 0);
+        c.whole(3, 0, -1, 0);
+        Bench d = bench("a VALUE of a LOCAL that comes late");
+        d.plain(0);
+        d.gate.param(0, -1, false, 0);
+        d.fine(0, "go 5; give; go 3; give; go 12; load 0; zero 4; number 1; store 5; go 2; give; give; null; store 5; go 2");
+        d.value(9, 5, Bench.INT, -1, false, 0, -1);
+        d.value(2, 5, Bench.ANY, -1, true, 0, -1);
+        d.value(3, 5, Bench.ANY, -1, true, 0, -1);
+        Bench e = bench("a VALUE of the stack that comes late");
+        e.plain(0);
+        e.gate.param(0, -1, false, 7);
+        e.fine(0, "go 5; give; go 3; give; go 10; load 0; zero 4; number 1; go 2; give; load 0; go 2");
+        e.value(8, S, Bench.INT, -1, false, 0, -1);
+        e.value(2, S, Bench.INT, -1, false, 7, -1);
+        e.value(3, S, Bench.INT, -1, false, 7, -1);
     }
 
     private void otherSite() {
@@ -457,14 +490,15 @@ public final class EdgesOfFramesTest {
         Bench b = bench("NEW a: VALUES that are RAW become ANY; this is the SITE then, nothing is SET").classes(0);
         b.gate.field(0, -1, false, 0);
         b.plain(0);
-        b.fine(0, "new 0; store 5; load 5; number 1; put 0; load 5; load 5; load 5; new 1; give");
-        b.whole(8, 3, 0, 1);
-        b.whole(9, 4, 8, 0);
-        b.value(9, 5, Bench.ANY, -1, false, 0, -1);
+        b.fine(0, "new 0; dup; store 0; store 5; load 5; number 1; put 0; load 5; load 5; load 5; new 1; give");
+        b.whole(10, 3, 0, 1);
+        b.whole(11, 4, 10, 0);
+        b.value(11, 0, Bench.ANY, -1, false, 0, -1);
+        b.value(11, 5, Bench.ANY, -1, false, 0, -1);
         for (int slot = S; slot < S + 3; slot++) {
-            b.value(9, slot, Bench.ANY, -1, false, 0, 5);
+            b.value(11, slot, Bench.ANY, -1, false, 0, 5);
         }
-        b.value(9, S + 3, Bench.RAW, 1, false, 0, -1);
+        b.value(11, S + 3, Bench.RAW, 1, false, 0, -1);
         Bench c = bench("NEW a: not null, without MARKS; VALUES that are not RAW stay").classes(0);
         c.plain(0);
         c.gate.param(0, 0, true, 15);
@@ -489,12 +523,13 @@ public final class EdgesOfFramesTest {
             .classes(0);
         b.gate.field(0, -1, false, 0);
         b.plain(0);
-        b.fine(0, "new 1; store 5; load 5; load 5; load 5; load 5; built; give");
-        b.whole(6, 4, 0, 0);
-        b.whole(7, 4, -1, 0);
-        b.value(7, 5, Bench.REF, 1, false, 0, -1);
+        b.fine(0, "new 1; dup; store 0; store 5; load 5; load 5; load 5; load 5; built; give");
+        b.whole(8, 4, 0, 0);
+        b.whole(9, 4, -1, 0);
+        b.value(9, 0, Bench.REF, 1, false, 0, -1);
+        b.value(9, 5, Bench.REF, 1, false, 0, -1);
         for (int slot = S; slot < S + 4; slot++) {
-            b.value(7, slot, Bench.REF, 1, false, 0, 5);
+            b.value(9, slot, Bench.REF, 1, false, 0, 5);
         }
         b.fine(0, "new 0; dup; number 1; put 0; built; give");
         b.whole(4, 1, 0, 1);

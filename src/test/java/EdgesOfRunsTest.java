@@ -17,6 +17,7 @@ public final class EdgesOfRunsTest {
         newObjects();
         nullTests();
         dispatch();
+        fullStacks();
         casts();
         guards();
         emptiedStack();
@@ -157,6 +158,13 @@ public final class EdgesOfRunsTest {
         for (int c = 0; c <= 4; c++) {
             b.run(3 + c, 0, 0, DONE, 100 + c / 2 * 2);
         }
+        Bench far = bench("the nearest one above that has one: five above").classes(0, 1, 2, 3, 4);
+        int first = far.gate.method(0, 0, false);
+        far.gate.result(first, -1, false, 0);
+        far.more(first, "number 8; give");
+        int start = function(far, 1, 0, "new 5; built; call 0; give");
+        far.load(0, 1, 2, 3, 4, 5);
+        far.run(start, 0, 0, DONE, 8);
         Bench d = bench("a CALL of a METHOD that is not STATIC, named in a lower CLASS than the one that does it").classes(0, 1);
         for (int c = 1; c <= 2; c++) {
             int m = d.gate.method(c, 0, false);
@@ -184,6 +192,37 @@ public final class EdgesOfRunsTest {
         function(f, 1, 0, "new 0; built; dup; number 1000; put 0; number 1; number 10; number 100; call 0; give");
         f.load(0);
         f.run(1, 0, 0, DONE, 2 + 10 + 300 + 1000);
+    }
+
+    private void fullStacks() {
+        Bench b = bench("CALL with a stack of four: the object or the argument on top").classes(0);
+        for (int c = 0; c <= 1; c++) {
+            int m = b.gate.method(c, 0, false);
+            b.gate.result(m, -1, false, 0);
+            b.more(m, "number " + (5 + c) + "; give");
+        }
+        builtIn(b, 1, 1);
+        builtIn(b, 2, 2);
+        function(b, 3, 0, "number 1; new 0; built; dup; new 1; built; call 0; give");
+        function(b, 4, 0, "number 1; number 2; number 3; number 4; call 2; give");
+        function(b, 5, 0, "number 1; number 2; number 3; number 4; call 3; add; add; add; give");
+        b.load(0, 1);
+        b.run(4, 0, 0, DONE, 6);
+        b.run(5, 0, 0, DONE, 3);
+        b.due("output(0)", b.gate.output(0), 4);
+        b.run(6, 0, 0, DONE, 10);
+        Bench c = bench("CALL of a METHOD without a RESULT pushes nothing");
+        c.more(c.plain(0), "number 7; give");
+        function(c, 1, 1, "load 0; call 0; give");
+        c.load(0);
+        c.run(1, 5, 0, DONE, 5);
+        Bench d = bench("A METHOD begins with an empty stack, whatever the one before left on its own");
+        d.more(d.plain(0), "number 1; number 2; number 3; number 4; give");
+        function(d, 1, 0, "number 10; number 20; number 40; number 80; add; add; add; give");
+        function(d, 2, 0, "call 0; call 1; call 1; add; call 0; give");
+        d.load(0);
+        d.run(2, 0, 0, DONE, 300);
+        d.run(2, 0, 0, DONE, 300);
     }
 
     private void casts() {

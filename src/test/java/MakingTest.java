@@ -42,9 +42,9 @@ public final class MakingTest {
         }
         b.due("no FIELD yet", b.gate.method(0, 0, true) == 0 && b.gate.add(0, 9, 0) == BAD, true);
         b.due("class 0 is there", b.gate.load(0) != BAD, true);
-        QualifierGate other = new QualifierGate();
+        Gate other = new Gate();
         other.cls(0);
-        b.due("objects share nothing", new QualifierGate().cls(1), BAD);
+        b.due("objects share nothing", new Gate().cls(1), BAD);
     }
 
     private void cls() {
