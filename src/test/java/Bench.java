@@ -5,7 +5,7 @@ final class Bench {
     static final int ANY = 0, INT = 1, NULL = 2, REF = 3, RAW = 4;
     static final int HEIGHT = 0, SITE = 1, SET = 2;
     static final int STACK = 6;
-    private static final List<String> NAMES = List.of("number", "null", "load", "store", "dup", "pop", "add", "new", "built",
+    static final List<String> NAMES = List.of("number", "null", "load", "store", "dup", "pop", "add", "new", "built",
         "get", "put", "call", "cast", "go", "zero", "isnull", "give", "fail");
 
     final Gate gate = new Gate();

@@ -15,6 +15,7 @@ public final class EdgesOfRunsTest {
     private void all() {
         wrapAround();
         newObjects();
+        references();
         nullTests();
         dispatch();
         fullStacks();
@@ -31,6 +32,7 @@ public final class EdgesOfRunsTest {
         reads();
         writes();
         same();
+        builtInWithInstructions();
         input();
         refusedRun();
         runArguments();
@@ -131,6 +133,49 @@ public final class EdgesOfRunsTest {
         c.run(0, 5, 6, DONE, 0);
         c.run(1, 5, 6, DONE, 5);
         c.run(2, 5, 6, DONE, 6);
+    }
+
+    private void references() {
+        oneObject("by DUP", "dup; store 4; pop; load 4; load 0; put 0");
+        oneObject("by a LOCAL", "store 4; load 4; load 0; put 0");
+        oneObject("by CAST", "cast 1; load 0; put 0");
+        oneObject("by what a METHOD gives", "call 1; load 0; put 0");
+        oneObject("by what SAME gives", "call 2; load 0; put 0");
+        oneObject("by a PARAMETER", "load 0; call 0");
+        oneObject("by a FIELD", "dup; put 1; load 3; get 1; store 4; load 4; isnull 0; load 4; load 0; put 0");
+        oneObject("by what is thrown", "fail; load 0; put 0");
+        Bench b = bench("PUT a: pops the value, then the object; the value, an object, too, stays as it is");
+        b.gate.field(0, 0, true, 0);
+        b.gate.field(0, -1, false, 0);
+        String two = "new 0; built; dup; load 0; put 1; store 3; new 0; built; dup; load 1; put 1; store 4; load 3; load 4; put 0; ";
+        function(b, 0, 2, two + "load 3; get 1; give");
+        function(b, 1, 2, two + "load 4; get 1; give");
+        b.load(0);
+        b.run(0, 5, 6, DONE, 5);
+        b.run(1, 5, 6, DONE, 6);
+    }
+
+    /** An object lies in local 3 and on the stack; what code puts into it is got from local 3; FIELD 0 is of a CLASS above. */
+    private void oneObject(String way, String code) {
+        Bench b = bench("references to one object, " + way).classes(0, 1);
+        b.gate.field(0, -1, false, 0);
+        b.gate.field(1, 0, true, 0);
+        int puts = b.plain(0);
+        b.gate.param(puts, 0, false, 0);
+        b.gate.param(puts, -1, false, 0);
+        b.more(puts, "load 0; load 1; put 0; give");
+        for (int name = 1; name <= 2; name++) {
+            int gives = b.plain(name);
+            b.gate.param(gives, 0, false, 0);
+            b.gate.result(gives, 0, false, 0);
+            b.more(gives, "load 0; give");
+        }
+        b.gate.builtIn(2, 2);
+        int m = function(b, 3, 1, "new 2; built; store 3; load 3; " + code + "; load 3; get 0; give");
+        b.gate.guard(m, 4, 4, 5);
+        b.load(0, 1, 2);
+        b.run(m, 37, 0, DONE, 37);
+        b.due("one object", b.gate.told(1), 1);
     }
 
     private void nullTests() {
@@ -597,6 +642,20 @@ public final class EdgesOfRunsTest {
             c.run(3 + made, 0, 0, DONE, 50 + made);
             c.due("METHODS at work for " + made, c.gate.told(4), made == 1 ? 1 : 2);
         }
+    }
+
+    private void builtInWithInstructions() {
+        Bench b = bench("7: its INSTRUCTIONS, if it has any, are not looked at while it is: nor in a run");
+        int reads = function(b, 1, 0, "number 5; give");
+        b.gate.builtIn(reads, 0);
+        int was = function(b, 2, 0, "number 6; give");
+        b.gate.builtIn(was, 0);
+        b.gate.builtIn(was, -1);
+        int m = function(b, 0, 0, "call 0; call 1; add; give");
+        b.gate.input(100);
+        b.load(0);
+        b.run(m, 0, 0, DONE, 106);
+        told(b, 6, 0, 0, 1, 2);
     }
 
     // ---- promises 16 to 20
