@@ -177,6 +177,16 @@ public final class EdgesOfFramesTest {
         c.gate.param(0, -1, false, 0);
         c.fine(0, "load 0; zero 4; null; go 5; number 1; give");
         c.value(5, S, Bench.ANY, -1, true, 0, -1);
+        Bench d = bench("It may be null if one may: of NULL and REF neither may");
+        d.plain(0);
+        d.gate.param(0, 0, false, 0);
+        d.fine(0, "load 0; isnull 4; load 0; go 5; load 0; give");
+        d.value(4, 0, Bench.NULL, -1, false, 0, -1);
+        d.value(5, 0, Bench.REF, 0, false, 0, -1);
+        d.value(5, S, Bench.REF, 0, false, 0, 0);
+        d.fine(0, "load 0; isnull 3; go 5; load 0; go 6; load 0; give");
+        d.value(6, 0, Bench.REF, 0, false, 0, -1);
+        d.value(6, S, Bench.REF, 0, false, 0, 0);
     }
 
     private void joinedMarks() {
@@ -642,6 +652,12 @@ public final class EdgesOfFramesTest {
         b.gate.result(1, 0, true, 0);
         b.fine(0, "call 1; give");
         b.value(1, S, Bench.REF, 0, true, 0, -1);
+        int own = b.gate.method(0, 2, false);
+        for (int may = 0; may <= 1; may++) {
+            b.gate.result(own, 1, may == 1, 9);
+            b.fine(0, "new 0; built; call " + own + "; give");
+            b.value(3, S, Bench.REF, 1, may == 1, 9, -1);
+        }
         Bench c = bench("CALL a: pops the arguments, the last one first, then, if METHOD a is not STATIC, the object");
         c.plain(0);
         for (int name = 1; name <= 4; name++) {
@@ -758,6 +774,7 @@ public final class EdgesOfFramesTest {
         d.due("check", d.gate.check(0), 0);
         d.due("by the second none", d.gate.frame(4, -1, 0), -1);
         guardedOnes();
+        guardedBuiltIns();
         guardFrames();
     }
 
@@ -775,6 +792,22 @@ public final class EdgesOfFramesTest {
             b.due("check of " + ones[op], b.gate.check(0), 0);
             boolean throwing = op == 11 || op == 12 || op == 17;
             b.due("height at the GUARD of " + ones[op], b.gate.frame(4, -1, 0), throwing ? 1 : -1);
+        }
+    }
+
+    private void guardedBuiltIns() {
+        for (int kind = -1; kind <= 2; kind++) {
+            Bench b = bench("From a CALL that is guarded a WAY leads to the at of its GUARD, too, BUILT-IN or not: " + kind);
+            b.plain(0);
+            b.plain(1);
+            b.gate.builtIn(1, kind);
+            b.code(0, "call 1; give; give");
+            b.gate.guard(0, 0, 0, 2);
+            b.due("check", b.gate.check(0), 0);
+            b.whole(2, 1, -1, 0);
+            b.code(0, "call 1; give");
+            b.gate.guard(0, 0, 0, 2);
+            b.due("an at that is not there", b.gate.check(0), QualifierGate.WAY);
         }
     }
 

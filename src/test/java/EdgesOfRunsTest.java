@@ -331,6 +331,19 @@ public final class EdgesOfRunsTest {
         d.load(0);
         d.run(1, 0, 0, DONE, 9);
         d.due("six at work", d.gate.told(4), 6);
+        Bench e = bench("the GUARD of the INSTRUCTION, else that of the CALL: the nearest one if there are several");
+        function(e, 0, 0, "new 0; built; fail; pop; number 1; give");
+        e.gate.guard(0, 2, 2, 3);
+        function(e, 1, 0, "call 0; give; pop; number 2; give");
+        e.gate.guard(1, 0, 0, 2);
+        function(e, 2, 0, "new 0; built; fail");
+        function(e, 3, 0, "call 2; give; pop; number 3; give");
+        e.gate.guard(3, 0, 0, 2);
+        function(e, 4, 0, "call 3; give; pop; number 4; give");
+        e.gate.guard(4, 0, 0, 2);
+        e.load(0);
+        e.run(1, 0, 0, DONE, 1);
+        e.run(4, 0, 0, DONE, 3);
     }
 
     private void emptiedStack() {
@@ -773,6 +786,7 @@ public final class EdgesOfRunsTest {
         c.plain(1);
         c.more(1, "new 0; built; fail");
         c.plain(2);
+        c.gate.param(2, -1, false, 0);
         c.more(2, "go 0");
         c.plain(3);
         c.more(3, "call 3; give");
@@ -785,7 +799,7 @@ public final class EdgesOfRunsTest {
         int[] methods = {1, 2, 3, 4, 5};
         for (int k = 0; k < hows.length; k++) {
             c.run(0, 0, 0, THROWN, 3);
-            c.run(methods[k], 0, 0, hows[k], 0);
+            c.run(methods[k], 7, 8, hows[k], 0);
         }
         Bench d = bench("18: 0, also if there was none");
         d.more(d.plain(0), "give");
@@ -857,6 +871,13 @@ public final class EdgesOfRunsTest {
         d.load(0);
         d.run(1, 0, 0, DONE, 0);
         d.due("told(4)", d.gate.told(4), 1);
+        Bench e = bench("20: the most METHODS at work at once: though fewer are so later");
+        e.more(e.plain(0), "give");
+        e.more(e.plain(1), "call 0; give");
+        e.more(e.plain(2), "call 1; call 0; give");
+        e.load(0);
+        e.run(2, 0, 0, DONE, 0);
+        told(e, 7, 0, 0, 0, 3);
     }
 
     private void manyCalls() {

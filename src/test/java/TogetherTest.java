@@ -34,6 +34,7 @@ public final class TogetherTest {
         leaves("14, 15: as it was then", LOOKED_WITH_ERROR, MAKING, views());
         leaves("14, 15: of the latest check or load, not of a run", LOADED, RUNNING, views());
         leaves("14, 15: of the latest check or load, not of a run", RUN, RUNNING, views());
+        leaves("14, 15: of the latest check or load, not of a run", LOADED + "; load 2", RUNNING, views());
         leaves("18, 19, 20: of the latest run, not of a look", RUN, LOOKING, outcomes());
         leaves("18, 19, 20: of the latest run, not of a look", THROWN, "check 0; input 1", outcomes());
         leaves("13: a run or a check LOADS nothing", LOADED, RUNNING + "; check 0; check 3", loads());
