@@ -125,6 +125,7 @@ public final class EdgesOfFramesTest {
         }
         joinedClasses();
         joinedNull();
+        joinedFullStacks();
         joinedMarks();
         joinedOrigin();
     }
@@ -187,6 +188,22 @@ public final class EdgesOfFramesTest {
         d.fine(0, "load 0; isnull 3; go 5; load 0; go 6; load 0; give");
         d.value(6, 0, Bench.REF, 0, false, 0, -1);
         d.value(6, S, Bench.REF, 0, false, 0, 0);
+    }
+
+    private void joinedFullStacks() {
+        Bench b = bench("JOINING two FRAMES: else VALUE by VALUE: six LOCALS and a stack of four").classes(0);
+        b.plain(0);
+        b.gate.param(0, -1, false, 2);
+        b.gate.param(0, 1, true, 1);
+        b.gate.param(0, 0, false, 4);
+        b.fine(0, "load 0; zero 9; null; store 5; load 0; null; load 1; load 2; go 13; load 0; load 1; number 1; load 1; give");
+        b.whole(13, 4, -1, 0);
+        b.value(13, S, Bench.INT, -1, false, 2, 0);
+        b.value(13, S + 1, Bench.REF, 1, true, 1, -1);
+        b.value(13, S + 2, Bench.ANY, -1, true, 1, -1);
+        b.value(13, S + 3, Bench.REF, 0, true, 5, -1);
+        b.value(13, 5, Bench.ANY, -1, true, 0, -1);
+        b.value(13, 0, Bench.INT, -1, false, 2, -1);
     }
 
     private void joinedMarks() {
